@@ -413,6 +413,13 @@ public final class PromiseTests {
         due("no more", x.removeRule(0), NONE);
         due("one again", on(x, "es>").rule(), 0);
         due("links at once", row(x, 0, 1), "0 4");
+        GlossaryLinker y = with(list("s>a", "s>b", "s>c"), list(), "xxs");
+        due("the middle one", y.removeRule(1), 2);
+        due("another behind the later ones", on(y, "s>d").rule(), 2);
+        due("bases", bases(y, 0, 0), "xxs xxa xxc xxd");
+        due("the last", y.removeRule(2), 2);
+        due("another in its place", on(y, "s>e").rule(), 2);
+        due("bases", bases(y, 0, 0), "xxs xxa xxc xxe");
     }
 
     private static void parameter() {
@@ -473,6 +480,11 @@ public final class PromiseTests {
         due("into the last section", page(x, 1), "x a w b / y c d zzz");
         due("the tape is empty", x.count(2), 0);
         due("other pages", x.count(6), 8);
+        on(x, "a / b").page(1);
+        due("behind a section's only word", on(x, "c").insert(1, 2), 3);
+        due("into its section", page(x, 1), "a / b c");
+        due("ahead of a section's only word", on(x, "d").insert(1, 1), 4);
+        due("into its section", page(x, 1), "a / d b c");
     }
 
     private static void insertErrors() {
@@ -551,6 +563,11 @@ public final class PromiseTests {
         due("no more", x.cut(0, 0), NONE);
         due("the tape stays", x.count(2), 4);
         due("into the page again", x.insert(0, 0), 1);
+        on(x, "a b / c d").page(2);
+        due("of two in the first section", x.cut(2, 1), 3);
+        due("the sections stay", page(x, 2), "a / c d");
+        due("of two in the last section", x.cut(2, 1), 2);
+        due("the sections stay", page(x, 2), "a / d");
         due("its section", x.told(0, 0, 0), 0);
     }
 
@@ -768,6 +785,33 @@ public final class PromiseTests {
         due("their number", x.told(0, 0, 7), 3);
         GlossaryLinker w = with(list("b>bb", "bb>"), list(), "aaaaaaaab");
         due("on the way too", bases(w, 0, 0), "aaaaaaaab aaaaaaaabb aaaaaaaa");
+        GlossaryLinker v = with(list("s>"), list(), "catss");
+        due("two rules", bases(v, 0, 0), "catss cats cat");
+        on(v, "ox").page(0);
+        due("none of the word ahead", bases(v, 0, 0), "ox");
+        basesMost();
+    }
+
+    private static void basesMost() {
+        String[] rules = list("s>as", "s>bs", "s>cs", "s>ds", "s>es", "s>fs");
+        GlossaryLinker x = with(rules, list("zzffs:"), "zzs yyyyyyyyys yyyyyyyys yyyyyyyyyy");
+        StringBuilder all = new StringBuilder("zzs");
+        for (char a = 'a'; a <= 'f'; a++) {
+            all.append(" zz").append(a).append('s');
+        }
+        for (char a = 'a'; a <= 'f'; a++) {
+            for (char b = 'a'; b <= 'f'; b++) {
+                all.append(" zz").append(a).append(b).append('s');
+            }
+        }
+        due("all of them", bases(x, 0, 0), all.toString());
+        due("their number", x.told(0, 0, 7), 43);
+        due("the last of them is a head", x.told(0, 0, 5), 2);
+        due("no room for a letter more", x.told(0, 1, 7), 1);
+        due("room for one letter", x.told(0, 2, 7), 7);
+        GlossaryLinker y = with(list("j>xyz", "abcd>x", "d>y"), list(), "abcdefghij zzzzzzabcd");
+        due("at most ten letters", bases(y, 0, 0), "abcdefghij");
+        due("ten letters", bases(y, 0, 1), "zzzzzzabcd zzzzzzx zzzzzzabcy");
     }
 
     private static void ofSense() {
@@ -892,6 +936,8 @@ public final class PromiseTests {
         due("no such page", x.again(-1), NONE);
         GlossaryLinker y = with(list(), list("a:"), times("a", 20));
         due("the first of twenty", y.again(0), 1);
+        due("the first word", with(list(), list("a:"), "a q").again(0), 1);
+        due("the last word", with(list(), list("a:"), "q a").again(0), 1);
     }
 
     private static void back() {
@@ -903,6 +949,7 @@ public final class PromiseTests {
         }
         due("at most eight", x.count(3), 8);
         due("three", x.back(), 7);
+        due("the gap of the ninth", x.count(5), 8);
         due("three", x.back(), 6);
         due("three", x.back(), 5);
         due("the gap then", x.count(5), 6);
@@ -920,44 +967,70 @@ public final class PromiseTests {
 
     private static void backAll() {
         promise = "promise 23";
-        GlossaryLinker x = with(list("s>"), list("a:x@1"), "a b / as");
-        String at = state(x);
-        on(x, "z").page(0);
-        undone(x, "page", at);
-        on(x, "b:").sense();
-        undone(x, "sense", at);
-        on(x, "b>").rule();
-        undone(x, "rule", at);
-        x.removeSense(0);
-        undone(x, "removeSense", at);
-        x.removeRule(0);
-        undone(x, "removeRule", at);
-        x.parameter(0, 5);
-        undone(x, "parameter", at);
-        x.budget(0, 1);
-        undone(x, "budget", at);
-        on(x, "q").insert(0, 1);
-        undone(x, "insert", at);
-        on(x, "q").replace(0, 2);
-        undone(x, "replace", at);
-        x.cut(0, 2);
-        undone(x, "cut", at);
-        on(x, "tape");
-        x.parameter(1, 0);
-        due("a change without a difference", x.back(), 3);
-        due("the tape stays", x.count(2), 4);
+        for (String change : list("page", "sense", "rule", "removeSense", "removeRule", "parameter", "budget",
+                "insert", "replace", "cut")) {
+            GlossaryLinker x = with(list("s>"), list("a:x@1"), "a b / cats");
+            String at = state(x);
+            change(x, change);
+            due("changes of " + change, x.count(3), 4);
+            due("something different by " + change, state(x).equals(at) ? 1 : 0, 0);
+            due("back() from " + change, x.back(), 3);
+            due("the state behind " + change, state(x), at);
+        }
+        GlossaryLinker y = new GlossaryLinker();
+        on(y, "tape");
+        y.parameter(1, 0);
+        y.parameter(1, 0);
+        due("a change without a difference", y.back(), 1);
+        due("the tape stays", y.count(2), 4);
+        y.image();
+        y.feed(1, 'x', 0, 0, 0, 0);
+        y.cut(0, 0);
+        y.parameter(1, 10);
+        due("none of these is a change", y.count(3), 1);
     }
 
-    private static void undone(GlossaryLinker x, String change, String at) {
-        due("changes of " + change, x.count(3), 4);
-        due("back() from " + change, x.back(), 3);
-        due("the state behind " + change, state(x), at);
+    private static void change(GlossaryLinker x, String change) {
+        switch (change) {
+            case "page":
+                due(change, on(x, "z").page(0), 1);
+                break;
+            case "sense":
+                due(change, on(x, "b:").sense(), 1);
+                break;
+            case "rule":
+                due(change, on(x, "ts>").rule(), 1);
+                break;
+            case "removeSense":
+                due(change, x.removeSense(0), 0);
+                break;
+            case "removeRule":
+                due(change, x.removeRule(0), 0);
+                break;
+            case "parameter":
+                due(change, x.parameter(0, 5), 3);
+                break;
+            case "budget":
+                due(change, x.budget(0, 1), 20);
+                break;
+            case "insert":
+                due(change, on(x, "q").insert(0, 1), 4);
+                break;
+            case "replace":
+                due(change, on(x, "q").replace(0, 2), 3);
+                break;
+            default:
+                due(change, x.cut(0, 2), 2);
+        }
     }
 
     private static String state(GlossaryLinker x) {
         StringBuilder text = new StringBuilder();
         for (int p = 0; p < 4; p++) {
             text.append(page(x, p)).append('|').append(x.ofPage(p, 2)).append('|').append(row(x, p, 2)).append('|');
+            for (int i = 0; i < x.ofPage(p, 0); i++) {
+                text.append(bases(x, p, i)).append('|');
+            }
         }
         for (int s = 0; s < x.count(0); s++) {
             text.append(x.ofSense(s, 0)).append(x.ofSense(s, 1)).append(x.ofSense(s, 2)).append('|');
@@ -983,7 +1056,7 @@ public final class PromiseTests {
 
     private static void undo() {
         promise = "promise 25";
-        GlossaryLinker x = with(list("s>"), list("a:x@1", "b:"), "a b / as");
+        GlossaryLinker x = with(list("s>"), list("a:x@1", "b:"), "a b / cats");
         due("no snapshot", x.undo(), STATE);
         due("as many changes", x.count(3), 4);
         x.parameter(0, 7);
@@ -995,6 +1068,7 @@ public final class PromiseTests {
         x.parameter(1, 2);
         x.budget(2, 4);
         x.removeRule(0);
+        on(x, "ts>").rule();
         x.removeSense(0);
         on(x, "other").page(0);
         on(x, "tape");
@@ -1013,7 +1087,7 @@ public final class PromiseTests {
     private static void count() {
         promise = "promise 26";
         GlossaryLinker x = with(list("s>", "e>"), list("a:", "b:@0", "c:", "d:"), "a b / cs a");
-        on(x, "d cce q").page(2);
+        on(x, "q d cce").page(2);
         on(x, "xyz");
         x.parameter(0, 6);
         x.parameter(1, 0);
