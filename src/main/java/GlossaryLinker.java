@@ -835,6 +835,9 @@ public final class GlossaryLinker {
         }
 
         private void dropOldest() {
+            if (states.length < 1) {
+                return;
+            }
             State oldest = states[0];
             for (int c = 0; c + 1 < states.length; c++) {
                 states[c] = states[c + 1];

@@ -1,9 +1,5 @@
 /** Cases made by hand, a method or more for each promise of the document. */
-public final class PromiseTests {
-    private static final int NONE = -1, BAD = -2, STATE = -3, FULL = -4, NO = -5;
-    private static int wrong = 0;
-    private static String promise = "";
-
+public final class PromiseTests extends Checks {
     public static void main(String[] args) {
         newObject();
         feed();
@@ -42,100 +38,11 @@ public final class PromiseTests {
         image();
         undo();
         count();
-        System.out.println(wrong == 0 ? "all promises hold" : wrong + " answers are not as due");
-        System.exit(wrong == 0 ? 0 : 1);
-    }
-
-    private static void due(String call, int got, int want) {
-        if (got != want) {
-            wrong++;
-            System.out.println(promise + ": " + call + " answered " + got + ", due is " + want);
-        }
-    }
-
-    /** Feeds a text, so that the next call reads it. */
-    private static GlossaryLinker on(GlossaryLinker x, String text) {
-        for (int at = 0; at < text.length(); at += 5) {
-            int n = Math.min(5, text.length() - at);
-            int[] bytes = new int[5];
-            for (int k = 0; k < n; k++) {
-                bytes[k] = text.charAt(at + k);
-            }
-            due("feed of " + text, x.feed(n, bytes[0], bytes[1], bytes[2], bytes[3], bytes[4]), at + n);
-        }
-        return x;
-    }
-
-    private static GlossaryLinker with(String[] rules, String[] senses, String page) {
-        GlossaryLinker x = new GlossaryLinker();
-        for (int r = 0; r < rules.length; r++) {
-            due("rule of " + rules[r], on(x, rules[r]).rule(), r);
-        }
-        for (int s = 0; s < senses.length; s++) {
-            due("sense of " + senses[s], on(x, senses[s]).sense(), s);
-        }
-        on(x, page).page(0);
-        return x;
-    }
-
-    private static String[] list(String... texts) {
-        return texts;
-    }
-
-    private static String text(GlossaryLinker x, int page, int i) {
-        StringBuilder letters = new StringBuilder();
-        for (int k = 0; k < x.word(page, i, -1); k++) {
-            letters.append((char) x.word(page, i, k));
-        }
-        return letters.toString();
-    }
-
-    private static String page(GlossaryLinker x, int page) {
-        StringBuilder text = new StringBuilder();
-        for (int i = 0; i < x.ofPage(page, 0); i++) {
-            boolean next = i > 0 && x.told(page, i, 0) != x.told(page, i - 1, 0);
-            text.append(i == 0 ? "" : next ? " / " : " ").append(text(x, page, i));
-        }
-        return text.toString();
-    }
-
-    private static String bases(GlossaryLinker x, int page, int i) {
-        StringBuilder text = new StringBuilder();
-        for (int b = 0; x.base(page, i, b, -1) != NO; b++) {
-            text.append(b == 0 ? "" : " ");
-            for (int k = 0; k < x.base(page, i, b, -1); k++) {
-                text.append((char) x.base(page, i, b, k));
-            }
-        }
-        return text.toString();
-    }
-
-    /** A row of one of the numbers that are told of the words. */
-    private static String row(GlossaryLinker x, int page, int what) {
-        StringBuilder text = new StringBuilder();
-        for (int i = 0; i < x.ofPage(page, 0); i++) {
-            text.append(i == 0 ? "" : " ").append(x.told(page, i, what));
-        }
-        return text.toString();
-    }
-
-    private static void due(String what, String got, String want) {
-        if (!got.equals(want)) {
-            wrong++;
-            System.out.println(promise + ": " + what + " is <" + got + ">, due is <" + want + ">");
-        }
-    }
-
-    private static String times(String word, int n) {
-        StringBuilder text = new StringBuilder(word);
-        for (int k = 1; k < n; k++) {
-            text.append(' ').append(word);
-        }
-        return text.toString();
+        end("all promises hold");
     }
 
     private static void newObject() {
-        promise = "promise 1";
+        sentence("promise 1");
         GlossaryLinker x = new GlossaryLinker();
         for (int what = 0; what <= 8; what++) {
             due("count(" + what + ")", x.count(what), what == 4 ? 3 : 0);
@@ -159,7 +66,7 @@ public final class PromiseTests {
     }
 
     private static void feed() {
-        promise = "promise 2";
+        sentence("promise 2");
         GlossaryLinker x = new GlossaryLinker();
         due("none", x.feed(0, 1, 1, 1, 1, 1), BAD);
         due("six", x.feed(6, 1, 1, 1, 1, 1), BAD);
@@ -190,7 +97,7 @@ public final class PromiseTests {
     }
 
     private static void pages() {
-        promise = "promise 3";
+        sentence("promise 3");
         GlossaryLinker x = new GlossaryLinker();
         due("a page", on(x, "ab c / def / g h").page(2), 5);
         due("its words", page(x, 2), "ab c / def / g h");
@@ -221,7 +128,7 @@ public final class PromiseTests {
     }
 
     private static void pagesWrong() {
-        promise = "promise 3";
+        sentence("promise 3");
         wrongPage(" a", 0, 1);
         wrongPage("A", 0, 1);
         wrongPage("/", 0, 1);
@@ -247,7 +154,7 @@ public final class PromiseTests {
     }
 
     private static void pagesFull() {
-        promise = "promise 3";
+        sentence("promise 3");
         String twenty = times("a", 20);
         wrongPage(twenty + " b", 40, 3);
         wrongPage(twenty + " abcdefghijklm", 40, 3);
@@ -269,7 +176,7 @@ public final class PromiseTests {
     }
 
     private static void senses() {
-        promise = "promise 4";
+        sentence("promise 4");
         GlossaryLinker x = new GlossaryLinker();
         due("no hints", on(x, "ab:").sense(), 0);
         due("a hint", on(x, "abc:x").sense(), 1);
@@ -304,7 +211,7 @@ public final class PromiseTests {
     }
 
     private static void sensesWrong() {
-        promise = "promise 4";
+        sentence("promise 4");
         wrongSense("", 0, 1);
         wrongSense(":", 0, 1);
         wrongSense("a", 1, 1);
@@ -332,7 +239,7 @@ public final class PromiseTests {
     }
 
     private static void rules() {
-        promise = "promise 5";
+        sentence("promise 5");
         GlossaryLinker x = new GlossaryLinker();
         due("no replacement", on(x, "s>").rule(), 0);
         due("the longest", on(x, "abcd>efg").rule(), 1);
@@ -363,7 +270,7 @@ public final class PromiseTests {
     }
 
     private static void rulesWrong() {
-        promise = "promise 5";
+        sentence("promise 5");
         wrongRule("", 0, 1);
         wrongRule(">", 0, 1);
         wrongRule("a", 1, 1);
@@ -380,7 +287,7 @@ public final class PromiseTests {
     }
 
     private static void removeSense() {
-        promise = "promise 6";
+        sentence("promise 6");
         GlossaryLinker x = with(list(), list("cat:", "dog:@1", "ox:"), "ox dog cat");
         due("no such sense", x.removeSense(3), NONE);
         due("no such sense", x.removeSense(-1), NONE);
@@ -400,7 +307,7 @@ public final class PromiseTests {
     }
 
     private static void removeRule() {
-        promise = "promise 7";
+        sentence("promise 7");
         GlossaryLinker x = with(list("s>", "es>x", "ses>y"), list("bus:"), "buses bus");
         due("bases", bases(x, 0, 0), "buses buse busx buy");
         due("no such rule", x.removeRule(3), NONE);
@@ -423,7 +330,7 @@ public final class PromiseTests {
     }
 
     private static void parameter() {
-        promise = "promise 8";
+        sentence("promise 8");
         GlossaryLinker x = new GlossaryLinker();
         due("what 2", x.parameter(2, 0), NONE);
         due("what -1", x.parameter(-1, 0), NONE);
@@ -445,7 +352,7 @@ public final class PromiseTests {
     }
 
     private static void budget() {
-        promise = "promise 9";
+        sentence("promise 9");
         GlossaryLinker x = with(list(), list("a:", "b:"), "a b");
         due("no such page", x.budget(4, 0), NONE);
         due("no such page", x.budget(-1, 0), NONE);
@@ -464,7 +371,7 @@ public final class PromiseTests {
     }
 
     private static void insert() {
-        promise = "promise 10";
+        sentence("promise 10");
         GlossaryLinker x = new GlossaryLinker();
         due("into no words", on(x, "m").insert(1, 0), 1);
         due("its only section", page(x, 1), "m");
@@ -488,7 +395,7 @@ public final class PromiseTests {
     }
 
     private static void insertErrors() {
-        promise = "promise 10";
+        sentence("promise 10");
         GlossaryLinker x = new GlossaryLinker();
         on(x, "a b").page(1);
         on(x, "?");
@@ -516,7 +423,7 @@ public final class PromiseTests {
     }
 
     private static void replace() {
-        promise = "promise 11";
+        sentence("promise 11");
         GlossaryLinker x = new GlossaryLinker();
         on(x, "a b / c").page(3);
         due("the last word", on(x, "xyz").replace(3, 2), 3);
@@ -540,7 +447,7 @@ public final class PromiseTests {
     }
 
     private static void cut() {
-        promise = "promise 12";
+        sentence("promise 12");
         GlossaryLinker x = new GlossaryLinker();
         on(x, "a / b c / d / e").page(0);
         on(x, "tape");
@@ -572,7 +479,7 @@ public final class PromiseTests {
     }
 
     private static void edited() {
-        promise = "promise 13";
+        sentence("promise 13");
         GlossaryLinker x = with(list(), list("cat:", "dog:"), "cat dog cat / ox");
         due("no edit", x.edited(2), NO);
         due("what 3", x.edited(3), NONE);
@@ -596,12 +503,8 @@ public final class PromiseTests {
         due("links", row(y, 0, 2), "-5 1 -5");
     }
 
-    private static String edits(GlossaryLinker x) {
-        return x.edited(0) + " " + x.edited(1) + " " + x.edited(2);
-    }
-
     private static void editedStays() {
-        promise = "promise 13";
+        sentence("promise 13");
         GlossaryLinker x = with(list(), list("cat:", "dog:"), "cat cat dog");
         x.cut(0, 0);
         due("an edit", edits(x), "1 1 0");
@@ -625,7 +528,7 @@ public final class PromiseTests {
     }
 
     private static void cause() {
-        promise = "promise 14";
+        sentence("promise 14");
         GlossaryLinker x = new GlossaryLinker();
         due("none", x.cause(), NO);
         on(x, "a").page(0);
@@ -649,7 +552,7 @@ public final class PromiseTests {
     }
 
     private static void word() {
-        promise = "promise 15";
+        sentence("promise 15");
         GlossaryLinker x = new GlossaryLinker();
         on(x, "azbycxdwev q").page(2);
         due("length", x.word(2, 0, -1), 10);
@@ -670,7 +573,7 @@ public final class PromiseTests {
     }
 
     private static void toldPlain() {
-        promise = "promise 16";
+        sentence("promise 16");
         GlossaryLinker x = with(list("s>", "e>"), list("cat:", "dog:"), "cat ox / dogs cates dog");
         due("sections", row(x, 0, 0), "0 0 1 1 1");
         due("reasons", row(x, 0, 1), "0 1 0 0 4");
@@ -690,7 +593,7 @@ public final class PromiseTests {
     }
 
     private static void toldMeaning() {
-        promise = "promise 16";
+        sentence("promise 16");
         GlossaryLinker x = with(list("s>", "ks>k"),
                 list("bank:river,loan", "bank:money,loan,money", "bank:loan,river,money"),
                 "loans bank / river bank / bank / river money banks");
@@ -709,7 +612,7 @@ public final class PromiseTests {
     }
 
     private static void toldReasons() {
-        promise = "promise 16";
+        sentence("promise 16");
         GlossaryLinker x = with(list(), list("cat:", "dog:@0", "cow:a", "cow:b", "pig:"),
                 "ox cow dog cat cat pig pig / cat pig");
         due("reasons", row(x, 0, 1), "1 2 3 0 4 0 4 0 0");
@@ -732,7 +635,7 @@ public final class PromiseTests {
     }
 
     private static void toldWindow() {
-        promise = "promise 16";
+        sentence("promise 16");
         String[] senses = list("bank:river", "bank:money");
         GlossaryLinker x = with(list(), senses, "river a b bank money a b c bank");
         due("the window is 3", row(x, 0, 4), "-5 -5 -5 1 -5 -5 -5 -5 -5");
@@ -750,7 +653,7 @@ public final class PromiseTests {
     }
 
     private static void base() {
-        promise = "promise 17";
+        sentence("promise 17");
         GlossaryLinker x = with(list("ies>y"), list(), "cities ox");
         due("the word itself", x.base(0, 0, 0, -1), 6);
         due("its letter", x.base(0, 0, 0, 3), 'i');
@@ -770,7 +673,7 @@ public final class PromiseTests {
     }
 
     private static void baseOrder() {
-        promise = "promise 17";
+        sentence("promise 17");
         GlossaryLinker x = with(list("a>b", "b>c", "c>a"), list(), "xxa xa");
         due("the order; a base that comes again", bases(x, 0, 0), "xxa xxb xxc");
         due("two letters ahead of the ending", bases(x, 0, 1), "xa");
@@ -815,7 +718,7 @@ public final class PromiseTests {
     }
 
     private static void ofSense() {
-        promise = "promise 18";
+        sentence("promise 18");
         GlossaryLinker x = with(list("s>"), list("cat:x,y@1", "dog:", "cow:z", "cow:"), "cat cats / cat dog");
         on(x, "cat dog dogs").page(1);
         on(x, "cow z cow").page(3);
@@ -843,7 +746,7 @@ public final class PromiseTests {
     }
 
     private static void ofPage() {
-        promise = "promise 19";
+        sentence("promise 19");
         GlossaryLinker x = with(list(), list("a:", "b:@0", "c:x", "c:y", "d:"),
                 "q b c a a d / d a c / a q");
         int[] due = {11, 3, 20, 5, 9, 5};
@@ -871,7 +774,7 @@ public final class PromiseTests {
     }
 
     private static void link() {
-        promise = "promise 20";
+        sentence("promise 20");
         GlossaryLinker x = with(list(), list("a:", "b:"), "q a a q b / a");
         due("the first", x.link(0, 0), 1);
         due("the second", x.link(0, 1), 4);
@@ -886,7 +789,7 @@ public final class PromiseTests {
     }
 
     private static void without() {
-        promise = "promise 21";
+        sentence("promise 21");
         GlossaryLinker x = with(list(), list("a:", "b:", "c:"), "a b a c / a");
         due("a later one of the sense", x.without(0, 0), 2);
         due("no other b", x.without(0, 1), NO);
@@ -919,7 +822,7 @@ public final class PromiseTests {
     }
 
     private static void again() {
-        promise = "promise 22";
+        sentence("promise 22");
         GlossaryLinker x = with(list("s>"), list("a:", "b:", "c:@0", "d:x", "d:y"),
                 "a b a d cc c / a x d bs b / q a b");
         due("as by the first way", x.again(0), x.ofPage(0, 3));
@@ -941,7 +844,7 @@ public final class PromiseTests {
     }
 
     private static void back() {
-        promise = "promise 23";
+        sentence("promise 23");
         GlossaryLinker x = new GlossaryLinker();
         due("none", x.back(), STATE);
         for (int k = 0; k < 10; k++) {
@@ -966,7 +869,7 @@ public final class PromiseTests {
     }
 
     private static void backAll() {
-        promise = "promise 23";
+        sentence("promise 23");
         for (String change : list("page", "sense", "rule", "removeSense", "removeRule", "parameter", "budget",
                 "insert", "replace", "cut")) {
             GlossaryLinker x = with(list("s>"), list("a:x@1"), "a b / cats");
@@ -1024,22 +927,8 @@ public final class PromiseTests {
         }
     }
 
-    private static String state(GlossaryLinker x) {
-        StringBuilder text = new StringBuilder();
-        for (int p = 0; p < 4; p++) {
-            text.append(page(x, p)).append('|').append(x.ofPage(p, 2)).append('|').append(row(x, p, 2)).append('|');
-            for (int i = 0; i < x.ofPage(p, 0); i++) {
-                text.append(bases(x, p, i)).append('|');
-            }
-        }
-        for (int s = 0; s < x.count(0); s++) {
-            text.append(x.ofSense(s, 0)).append(x.ofSense(s, 1)).append(x.ofSense(s, 2)).append('|');
-        }
-        return text.append(x.count(1)).append('|').append(x.count(4)).append(x.count(5)).toString();
-    }
-
     private static void image() {
-        promise = "promise 24";
+        sentence("promise 24");
         GlossaryLinker x = with(list("s>"), list("a:", "b:"), "a b");
         due("the senses", x.image(), 2);
         due("no change", x.count(3), 4);
@@ -1055,7 +944,7 @@ public final class PromiseTests {
     }
 
     private static void undo() {
-        promise = "promise 25";
+        sentence("promise 25");
         GlossaryLinker x = with(list("s>"), list("a:x@1", "b:"), "a b / cats");
         due("no snapshot", x.undo(), STATE);
         due("as many changes", x.count(3), 4);
@@ -1085,7 +974,7 @@ public final class PromiseTests {
     }
 
     private static void count() {
-        promise = "promise 26";
+        sentence("promise 26");
         GlossaryLinker x = with(list("s>", "e>"), list("a:", "b:@0", "c:", "d:"), "a b / cs a");
         on(x, "q d cce").page(2);
         on(x, "xyz");
