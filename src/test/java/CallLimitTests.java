@@ -608,8 +608,7 @@ public final class CallLimitTests extends Checks {
 
     private static void leastBudget() {
         sentence("5 the least budget with which no word of it would have the reason 6");
-        String twenty = "a b c d e / a b c d e / a b c d e / a b c d e";
-        GlossaryLinker x = with(list(), list("a:", "b:", "c:", "d:", "e:"), twenty);
+        GlossaryLinker x = twentyLinks();
         due("as many as words", x.ofPage(0, 5), 20);
         x.budget(0, 0);
         due("whatever the budget is", x.ofPage(0, 5), 20);
@@ -643,8 +642,7 @@ public final class CallLimitTests extends Checks {
 
     private static void linkOfTwenty() {
         sentence("k: its number among the linked words of the page, from 0");
-        String twenty = "a b c d e / a b c d e / a b c d e / a b c d e";
-        GlossaryLinker x = with(list(), list("a:", "b:", "c:", "d:", "e:"), twenty);
+        GlossaryLinker x = twentyLinks();
         for (int k = 0; k < 20; k++) {
             due("link(0, " + k + ")", x.link(0, k), k);
         }
@@ -717,8 +715,7 @@ public final class CallLimitTests extends Checks {
     private static void againAtTheLimits() {
         sentence("Returns the number of linked words of a page by a second way");
         refusedAll("the page", NO_PAGES, (x, p) -> x.again(p), NONE);
-        String twenty = "a b c d e / a b c d e / a b c d e / a b c d e";
-        GlossaryLinker x = with(list(), list("a:", "b:", "c:", "d:", "e:"), twenty);
+        GlossaryLinker x = twentyLinks();
         for (int budget = 0; budget <= 20; budget++) {
             x.budget(0, budget);
             due("the budget " + budget, x.again(0), budget);
@@ -787,10 +784,9 @@ public final class CallLimitTests extends Checks {
 
     private static void wordsOfAllPages() {
         sentence("6 the words of all pages; 7 the linked words of all pages");
-        String twenty = "a b c d e / a b c d e / a b c d e / a b c d e";
-        GlossaryLinker x = with(list(), list("a:", "b:", "c:", "d:", "e:"), twenty);
-        for (int p = 0; p < 4; p++) {
-            due("twenty words", on(x, twenty).page(p), 20);
+        GlossaryLinker x = twentyLinks();
+        for (int p = 1; p < 4; p++) {
+            due("twenty words", on(x, page(x, 0)).page(p), 20);
         }
         due("words", x.count(6), 80);
         due("linked words", x.count(7), 80);

@@ -8,6 +8,7 @@ import java.util.Comparator;
 abstract class Checks {
     static final int NONE = -1, BAD = -2, STATE = -3, FULL = -4, NO = -5;
     static final int LEAST = Integer.MIN_VALUE, GREATEST = Integer.MAX_VALUE;
+    private static final String TWENTY_LINKS = "a b c d e / a b c d e / a b c d e / a b c d e";
     private static int wrong = 0;
     private static String sentence = "";
 
@@ -45,13 +46,14 @@ abstract class Checks {
         System.exit(wrong == 0 ? 0 : 1);
     }
 
-    /** Runs every method without parameters but main, so that no test is left out of a list. */
+    /** Runs every method without parameters and result, so that no test is left out of a list. */
     static void runAll(Class<?> tests) throws ReflectiveOperationException {
         Method[] methods = tests.getDeclaredMethods();
         Arrays.sort(methods, Comparator.comparing(Method::getName));
         int run = 0;
         for (Method test : methods) {
-            if (test.getParameterCount() == 0 && Modifier.isStatic(test.getModifiers()) && !test.isSynthetic()) {
+            boolean plain = test.getParameterCount() == 0 && test.getReturnType() == void.class;
+            if (plain && Modifier.isStatic(test.getModifiers())) {
                 sentence = test.getName();
                 runOne(test);
                 run++;
@@ -95,6 +97,11 @@ abstract class Checks {
         int words = page.isEmpty() ? 0 : page.replace(" / ", " ").split(" ").length;
         due("page of " + page, on(x, page).page(0), words);
         return x;
+    }
+
+    /** A new object with five senses and, on page 0, twenty words that are all linked. */
+    static GlossaryLinker twentyLinks() {
+        return with(list(), list("a:", "b:", "c:", "d:", "e:"), TWENTY_LINKS);
     }
 
     static String[] list(String... texts) {

@@ -1,13 +1,7 @@
 /** Mentions and links: a test for each sentence that names a limit of the window, the gap, the budget, a score. */
 public final class LinkLimitTests extends Checks {
-    private static final String TWENTY_LINKS = "a b c d e / a b c d e / a b c d e / a b c d e";
-
     public static void main(String[] args) throws ReflectiveOperationException {
         runAll(LinkLimitTests.class);
-    }
-
-    private static GlossaryLinker twentyLinks() {
-        return with(list(), list("a:", "b:", "c:", "d:", "e:"), TWENTY_LINKS);
     }
 
     /** Two words with n others between. */
