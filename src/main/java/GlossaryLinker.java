@@ -1392,11 +1392,12 @@ public final class GlossaryLinker {
                 if (asksAhead(of, j, depth + 1)) {
                     links++;
                     latest = Math.max(latest, j);
-                    hindered |= of.sectionAt(j) == of.sectionAt(i) && of.meantAt(j) == of.meantAt(i);
+                    boolean sameSection = of.sectionAt(j) == of.sectionAt(i);
+                    hindered = hindered || (sameSection && of.meantAt(j) == of.meantAt(i));
                 }
             }
-            hindered |= latest != WITHOUT && i - latest - 1 < of.gap;
-            hindered |= links >= of.budget;
+            boolean inGap = latest != WITHOUT && i - latest - 1 < of.gap;
+            hindered = hindered || inGap || links >= of.budget;
             of.thought[i] = hindered ? IS_NOT_LINKED : IS_LINKED;
             return !hindered;
         }
